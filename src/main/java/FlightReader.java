@@ -52,6 +52,7 @@ public final class FlightReader {
     private static final int NULL_NODE = 0;
 
     private static final long NANOS = 1000000000L;
+    private static final long TOO_GREAT = 2147483648L;
 
     private final Source source = new Source();
     private final Checkpoints checkpoints = new Checkpoints();
@@ -345,7 +346,7 @@ public final class FlightReader {
         int count() {
             int start = pos;
             long n = number();
-            if (n < 0 || n > Integer.MAX_VALUE) {
+            if (n < 0 || n >= TOO_GREAT) {
                 fail(CUT_FAULT, start);
             }
             return (int) n;
@@ -637,7 +638,7 @@ public final class FlightReader {
         }
 
         /** Reads a value of the type with that id, and answers its node. */
-        int read(Source in, Chunk chunk, int type, int flags, int depth) {
+        private int read(Source in, Chunk chunk, int type, int flags, int depth) {
             if (size > MAX_VALUES || depth > MAX_DEPTH) {
                 in.fail(ROOM_FAULT, in.pos);
             }
