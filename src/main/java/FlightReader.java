@@ -614,7 +614,8 @@ public final class FlightReader {
 
     /** The values of a recording as trees: what a node holds lies right behind it, up to its end. */
     private static final class Values {
-        private static final int MAX_DEPTH = 2 * MAX_TYPES + 2;
+        // As no structure holds itself, an array of each type in another is the deepest.
+        private static final int MAX_DEPTH = 2 * MAX_TYPES;
 
         // Node 0 stands for every constant that is not there.
         int size = 1;
@@ -761,6 +762,7 @@ public final class FlightReader {
         final int[] places = new int[MAX_CHECKPOINTS];
         final int[] deltas = new int[MAX_CHECKPOINTS];
         final int[] deltaPlaces = new int[MAX_CHECKPOINTS];
+        // The first one's are from 0 on, and each one's end where the next one's begin.
         final int[] firstConstants = new int[MAX_CHECKPOINTS + 1];
         int constantCount = 0;
         final int[] types = new int[MAX_CONSTANTS];
@@ -779,7 +781,6 @@ public final class FlightReader {
             places[count] = place;
             deltaPlaces[count] = in.pos;
             deltas[count] = in.count();
-            firstConstants[count] = constantCount;
             int pools = in.count();
             for (int p = 0; p < pools; p++) {
                 int typePlace = in.pos;

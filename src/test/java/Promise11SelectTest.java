@@ -77,6 +77,9 @@ final class Promise11SelectTest {
         passing(reader, "A:", 0, 2, 3, 5);
         passing(reader, "B:", 1, 4);
         passing(reader, "C:");
+        passing(reader, "Z:");
+        passing(reader, "B:", 1, 4);
+        passing(reader, "", 0, 1, 2, 3, 4, 5);
     }
 
     private static void freshOrNot() {
@@ -113,6 +116,11 @@ final class Promise11SelectTest {
         Check.same("the groups stay", reader.grouped(0, 1), 2);
         Check.same("nothing is typed then", reader.select(false), 2);
         Check.noIndex("no groups are left", () -> reader.grouped(0, 1));
+        for (String none : new String[] {"q?", "q.q", "E:q.a.", "n=7&q", "n>-"}) {
+            Check.typed(reader, none);
+            Check.noArgument("no filter", () -> reader.select(true));
+            passing(reader, "n=3", 2, 4);
+        }
     }
 
     private static void limits() {
