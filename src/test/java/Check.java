@@ -8,15 +8,50 @@ final class Check {
 
     private static int wrong = 0;
     private static int checked = 0;
+    private static int passed = 0;
+    private static int failed = 0;
+    private static String sentence = "";
 
     private Check() {
+    }
+
+    /** A test of its own: it holds the program to one sentence of the document, under the promise that it belongs to. */
+    static void sentence(int promise, String words, Runnable test) {
+        sentence = "Promise " + promise + ", \"" + words + "\": ";
+        int wrongBefore = wrong;
+        int checkedBefore = checked;
+        try {
+            test.run();
+        } catch (RuntimeException e) {
+            amiss("the test was ended by " + e);
+        }
+        if (checked == checkedBefore) {
+            amiss("nothing was checked");
+        }
+        if (wrong == wrongBefore) {
+            passed++;
+        } else {
+            failed++;
+        }
+        sentence = "";
+    }
+
+    private static void amiss(String told) {
+        wrong++;
+        System.out.println(sentence + told);
     }
 
     static void same(String what, long got, long due) {
         checked++;
         if (got != due) {
-            wrong++;
-            System.out.println(what + " answered " + got + ", due is " + due);
+            amiss(what + " answered " + got + ", due is " + due);
+        }
+    }
+
+    static void sameText(String what, String got, String due) {
+        checked++;
+        if (!got.equals(due)) {
+            amiss(what + " is " + got + ", due is " + due);
         }
     }
 
@@ -44,12 +79,10 @@ final class Check {
         checked++;
         try {
             long got = call.run();
-            wrong++;
-            System.out.println(what + " answered " + got + ", due is " + due.getSimpleName());
+            amiss(what + " answered " + got + ", due is " + due.getSimpleName());
         } catch (RuntimeException e) {
             if (e.getClass() != due) {
-                wrong++;
-                System.out.println(what + " threw " + e + ", due is " + due.getSimpleName());
+                amiss(what + " threw " + e + ", due is " + due.getSimpleName());
             }
         }
     }
@@ -93,10 +126,15 @@ final class Check {
         return path;
     }
 
+    /** A program without sentences is one test. The last line is what .ci/run counts by. */
     static void end() {
+        if (passed + failed == 0) {
+            failed = wrong > 0 || checked == 0 ? 1 : 0;
+            passed = 1 - failed;
+        }
         StackTraceElement[] stack = Thread.currentThread().getStackTrace();
-        System.out.println(stack[2].getClassName() + ": " + checked + " checked, " + wrong + " wrong");
-        if (wrong > 0 || checked == 0) {
+        System.out.println(stack[2].getClassName() + ": " + passed + " passed, " + failed + " failed");
+        if (wrong > 0 || failed > 0) {
             System.exit(1);
         }
     }

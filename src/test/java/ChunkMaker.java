@@ -19,6 +19,11 @@ final class ChunkMaker {
         return with(Bytes.type(16, 'E', Bytes.EVENT, Bytes.field('n', Bytes.INT, 0)));
     }
 
+    /** A chunk with one type of event, with one field n. */
+    static ChunkMaker holding(int type, int flags) {
+        return with(Bytes.type(16, 'E', Bytes.EVENT, Bytes.field('n', type, flags)));
+    }
+
     /** The place in the chunk of what is added next. */
     int here() {
         return 20 + body.size();
@@ -36,6 +41,11 @@ final class ChunkMaker {
     /** An event with its ticks and what is in its fields. */
     ChunkMaker happening(int type, long ticks, Bytes fields) {
         return event(type, new Bytes().number(ticks).join(fields));
+    }
+
+    /** An event of the first type; its fields begin three bytes behind its own beginning (four from length 128 on). */
+    ChunkMaker value(Bytes fields) {
+        return happening(16, 1, fields);
     }
 
     ChunkMaker number(long n) {

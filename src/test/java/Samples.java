@@ -28,4 +28,19 @@ final class Samples {
                 .number(77).number(5).add(4, 2).number(0x10041).number(8364));
         return maker.done();
     }
+
+    /** A recording of 960 bytes, which is as long as one can be: one event with a long text. */
+    static Bytes longest() {
+        int letters = 960 - ChunkMaker.holding(Bytes.TEXT, 0).here() - 7;
+        return ChunkMaker.holding(Bytes.TEXT, 0).value(Bytes.of(5).number(letters).join(Bytes.of('x').times(letters))).done();
+    }
+
+    /** One event of type E with a LONG field n for each number. */
+    static Bytes longs(long... numbers) {
+        ChunkMaker maker = ChunkMaker.holding(Bytes.LONG, 0);
+        for (long n : numbers) {
+            maker.value(new Bytes().number(n));
+        }
+        return maker.done();
+    }
 }
