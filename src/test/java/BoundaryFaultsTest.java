@@ -4,6 +4,8 @@ final class BoundaryFaultsTest {
         Check.sentence(3, "READING a recording: chunk by chunk; of each first the header, then its metadata, then all its events "
                 + "from byte 20 on in their order", BoundaryFaultsTest::order);
         Check.sentence(3, "then the chain.", BoundaryFaultsTest::chainComesLast);
+        Check.sentence(3, "The first thing that is not as said makes a FAULT, told by its kind and place (a byte of the recording).",
+                BoundaryFaultsTest::firstThing);
         Check.sentence(3, "2 CUT: a number or byte that is to be read goes beyond the end of its event", BoundaryFaultsTest::cuts);
         Check.sentence(3, "(of an event's length and type: of the chunk; and if the type ends behind the event's end)",
                 BoundaryFaultsTest::cutHeads);
@@ -48,6 +50,30 @@ final class BoundaryFaultsTest {
         Check.faulty("a chain before the next chunk", ChunkMaker.simple().lastCheckpointAt(1).done().join(Bytes.of(1)), 7, 10);
         Check.faulty("a chain before a fifth chunk", ChunkMaker.with().done().times(3)
                 .join(ChunkMaker.with().lastCheckpointAt(1).done()).join(Bytes.of(1)), 7, 79);
+    }
+
+    /** Every row has several faults; one after the other is mended, and the next one is told. */
+    private static void firstThing() {
+        Bytes types = Bytes.types(Bytes.type(16, 'E', 1, Bytes.field('t', Bytes.TEXT, 0)));
+        ChunkMaker maker = new ChunkMaker().metadataAt(20).event(0, types.copy().set(2, '?')).clock(0, 0).lastCheckpointAt(1);
+        int at = maker.here();
+        Bytes all = maker.raw(Bytes.of(9, 17, 1, 6, 0)).done();
+        Bytes bytes = Samples.longs(1).join(all.copy().set(0, 1)).add(70);
+        int base = Samples.longs(1).size();
+        told(bytes, 1, base);
+        told(bytes.set(base, 70), 1, base + 16);
+        told(bytes.set(base + 19, 1), 4, base + 24);
+        told(bytes.set(base + 24, 'E'), 5, base + at);
+        told(bytes.set(base + at, 5), 3, base + at + 1);
+        told(bytes.set(base + at + 1, 16), 6, base + at + 3);
+        told(bytes.set(base + at + 3, 0), 5, base + at + 4);
+        told(bytes.set(base + at + 3, 3), 7, base + 10);
+        told(bytes.set(base + 11, 0), 2, base + all.size() + 1);
+        Check.opened("nothing is left to mend", bytes.first(base + all.size()), 2);
+    }
+
+    private static void told(Bytes bytes, int kind, int place) {
+        Check.faulty("the fault at " + place, bytes, kind, place);
     }
 
     private static void cuts() {

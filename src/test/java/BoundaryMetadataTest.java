@@ -18,10 +18,11 @@ final class BoundaryMetadataTest {
         Check.sentence(3, "at the metadata's place an event that is not of type 0", BoundaryMetadataTest::notOfTypeZero);
         Check.sentence(3, "or no place behind the header (place: where that id begins; of the metadata's place: byte 8 of the header)",
                 BoundaryMetadataTest::noPlace);
-        Check.sentence(3, "one that was there before (each when it has been read; place: where it begins)", BoundaryMetadataTest::whenRead);
+        Check.sentence(3, "4 TELLING: a type or field that is not as said: id, name, kind, flags, one that was there before "
+                + "(each when it has been read; place: where it begins)", BoundaryMetadataTest::whenRead);
         Check.sentence(3, "how many types or fields", BoundaryMetadataTest::countsWhenRead);
-        Check.sentence(3, "when the event has been read to its end (5 comes before), a field whose type is none",
-                BoundaryMetadataTest::readToItsEnd);
+        Check.sentence(3, "then, when the event has been read to its end (5 comes before), a field whose type is none, or a structure "
+                + "without fields, and then a structure that holds itself", BoundaryMetadataTest::readToItsEnd);
         Check.sentence(3, "(place: the beginning of the metadata event)", BoundaryMetadataTest::beginning);
         Check.sentence(3, "(metadata among them are not looked at again, and count for nothing if they are others)",
                 BoundaryMetadataTest::others);

@@ -12,9 +12,10 @@ final class BoundaryNumbersTest {
         String below = "where a count, a length, a place or an id is meant it has to be below 2147483648.";
         Check.sentence(3, below, BoundaryNumbersTest::greatLengths);
         Check.sentence(3, below, BoundaryNumbersTest::greatTypeIds);
-        Check.sentence(3, below, BoundaryNumbersTest::greatTellings);
-        Check.sentence(3, below, BoundaryNumbersTest::greatCountsOfValues);
-        Check.sentence(3, below, BoundaryNumbersTest::greatCheckpoints);
+        String cut = "or it is a count, length, place or id that is not below 2147483648";
+        Check.sentence(3, cut, BoundaryNumbersTest::greatTellings);
+        Check.sentence(3, cut, BoundaryNumbersTest::greatCountsOfValues);
+        Check.sentence(3, cut, BoundaryNumbersTest::greatCheckpoints);
         Check.end();
     }
 

@@ -2,6 +2,7 @@
 final class BoundaryRecordingTest {
     public static void main(String[] args) {
         Check.sentence(1, "No bytes, no recording, nothing typed or selected.", BoundaryRecordingTest::newObject);
+        Check.sentence(1, "An object is used for at most 512 calls after it has been made", BoundaryRecordingTest::lastCall);
         Check.sentence(2, "Appends the n lowest bytes of word, the highest of them first", BoundaryRecordingTest::lowestBytes);
         Check.sentence(2, "false, refused, if n is not 1 .. 4", BoundaryRecordingTest::howManyBytes);
         Check.sentence(2, "or there would be more than 960.", BoundaryRecordingTest::tooManyBytes);
@@ -19,7 +20,8 @@ final class BoundaryRecordingTest {
                 BoundaryRecordingTest::events);
         Check.sentence(6, "with d = its ticks less those at the start (64 bits, what is beyond is lost) and f ticks a second",
                 BoundaryRecordingTest::ticksPassed);
-        Check.sentence(6, "/ goes to the lower whole number, % is what is left then", BoundaryRecordingTest::lowerNumbers);
+        Check.sentence(6, "d / f * 1000000000 + d % f * 1000000000 / f; / goes to the lower whole number, % is what is left then",
+                BoundaryRecordingTest::lowerNumbers);
         Check.sentence(6, "what is beyond 64 bits is lost).", BoundaryRecordingTest::nanosBeyond);
         Check.sentence(6, "IndexOutOfBoundsException if there is no such event; IllegalArgumentException if there is no such what.",
                 BoundaryRecordingTest::eventRefused);
@@ -38,6 +40,25 @@ final class BoundaryRecordingTest {
         Check.same("the fault of no bytes", reader.fault(0), 2);
         Check.same("its place", reader.fault(1), 0);
         Check.opened("room for all 960 bytes", Samples.longest(), 1);
+    }
+
+    /** The 512th call answers as any other, whatever the calls before it were. */
+    private static void lastCall() {
+        FlightReader reader = new FlightReader();
+        Bytes recording = Samples.longs(7);
+        recording.feedTo(reader);
+        Check.same("open()", reader.open(), 1);
+        int calls = (recording.size() + 3) / 4 + 1;
+        for (; calls < 511; calls++) {
+            Check.noArgument("open() of no bytes", reader::open);
+        }
+        Check.same("call 512", reader.value(0, 'n'), 7);
+        FlightReader grouping = Check.opened("60 numbers", Samples.longs(new long[60]), 60);
+        // 2 calls of fault() and what was fed.
+        for (calls = (Samples.longs(new long[60]).size() + 3) / 4 + 3; calls < 511; calls++) {
+            Check.same("group()", grouping.group('n', 'n'), 1);
+        }
+        Check.same("call 512", grouping.grouped(0, 1), 60);
     }
 
     private static void lowestBytes() {

@@ -40,11 +40,12 @@ final class Promise07KindTest {
         for (int e : new int[] {-1, 2, Integer.MAX_VALUE, Integer.MIN_VALUE}) {
             Check.noIndex("kind(" + e + ")", () -> reader.kind(e, 0));
         }
+        FlightReader other = Check.opened("rich", Samples.rich(), 2);
         for (int b = 1; b < 256; b++) {
             boolean field = b < 128 && "sakemp".indexOf(b) >= 0 || b == 't';
             if (!field) {
                 Check.same("byte " + b, reader.kind(1, b), 0);
-                Check.same("byte " + b + " behind", reader.kind(1, 's' | b << 24 | 'o' << 8 | 'o' << 16), b == 'o' ? 11 : b == 'n' ? 7 : 0);
+                Check.same("byte " + b + " behind", other.kind(1, 's' | b << 24 | 'o' << 8 | 'o' << 16), b == 'o' ? 11 : b == 'n' ? 7 : 0);
             }
         }
         Check.same("all bits", reader.kind(1, -1), 0);

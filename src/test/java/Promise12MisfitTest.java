@@ -1,10 +1,10 @@
 /** Promise 12: where what was typed begins no filter any more. */
 final class Promise12MisfitTest {
     public static void main(String[] args) {
-        FlightReader reader = Check.opened("one event", ChunkMaker.simple().number(1).done(), 1);
+        misfits();
+        cutShort();
+        FlightReader reader = one();
         Check.same("no select()", reader.misfit(), -1);
-        misfits(reader);
-        cutShort(reader);
         Check.typed(reader, "n?");
         Check.noArgument("select()", () -> reader.select(false));
         ChunkMaker.simple().done().feedTo(reader);
@@ -17,7 +17,11 @@ final class Promise12MisfitTest {
         Check.end();
     }
 
-    private static void misfits(FlightReader reader) {
+    private static FlightReader one() {
+        return Check.opened("one event", ChunkMaker.simple().number(1).done(), 1);
+    }
+
+    private static void misfits() {
         Object[] rows = {
             "?", 0, ":", 0, "=", 0, "&", 0, ".", 0, "-", 0, " n=1", 0, "@:", 0, "[:", 0, "`=1", 0, "{=1", 0, "/=1", 0,
             "EE:", 1, "En=1", 1, "E=1", 1, "E ", 1, "E::", 2, "E:E", 2, "E:F:", 2, "E:&n=1", 2, "E:=", 2, "E: n", 2,
@@ -28,20 +32,21 @@ final class Promise12MisfitTest {
             "n=1234567890", 11, "n=-1234567890", 12, "n=0000000000", 11, "n=1&&n=1", 4, "n=1&E:", 4, "n=1& n", 4,
             "n=1&n", 5, "n=1&n=1&?", 8, "E:n=1&=", 6};
         for (int i = 0; i < rows.length; i += 2) {
-            misfit(reader, (String) rows[i], (Integer) rows[i + 1]);
+            misfit((String) rows[i], (Integer) rows[i + 1]);
         }
     }
 
     /** What is the beginning of a filter, but none, does not fit at its end. */
-    private static void cutShort(FlightReader reader) {
+    private static void cutShort() {
         String[] rows = {"E", "n", "n.", "n.a", "n.a.b.c", "n=", "n=-", "n=1&", "E:n", "E:n>", "E:n>-", "E:n>1&a.0",
             "n=1&n=1&n=1&n=1&n=1&n=1&n=1&n=1&n=1&n=1&"};
         for (String row : rows) {
-            misfit(reader, row, row.length());
+            misfit(row, row.length());
         }
     }
 
-    private static void misfit(FlightReader reader, String filter, int due) {
+    private static void misfit(String filter, int due) {
+        FlightReader reader = one();
         Check.typed(reader, filter);
         Check.noArgument("select by " + filter, () -> reader.select(true));
         Check.same("misfit of " + filter, reader.misfit(), due);
