@@ -32,6 +32,13 @@ final class BoundaryCheckpointsTest {
                 Check.faulty("DELTA " + delta, chunk, 7, first + 6);
             }
         }
+        Check.faulty("to byte 0", ChunkMaker.simple().checkpoint(first).done(), 7, first + 2);
+        Check.faulty("before byte 0", ChunkMaker.simple().checkpoint(first + 1).done(), 7, first + 2);
+        ChunkMaker full = ChunkMaker.with().checkpoint(0);
+        while (full.here() + 4 <= 960) {
+            full.checkpoint(4);
+        }
+        Check.opened("as many as there can be", full.done(), 0);
         ChunkMaker far = ChunkMaker.holding(Bytes.INT, Bytes.POOL).checkpoint(0, ints(1, 9)).value(Bytes.of(1));
         Bytes text = new Bytes().number(700);
         far.event(0, Bytes.none().join(text).join(Bytes.of(0).times(700)));

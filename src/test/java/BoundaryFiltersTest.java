@@ -94,6 +94,7 @@ final class BoundaryFiltersTest {
         FlightReader reader = Check.opened("arrays", maker.value(row).done(), 1);
         taken(reader, "a.0.z.0=50", " 0");
         taken(reader, "a.0.z.9=59", " 0");
+        taken(reader, "a.0.z.9=59&a.0.z.0=50", " 0");
         taken(reader, "a.0.z=10", "");
         taken(reader, "9=0", "");
         misfit("=1", 0);
@@ -123,6 +124,7 @@ final class BoundaryFiltersTest {
         misfit("n=", 2);
         misfit("n=-", 3);
         misfit("n=--1", 3);
+        misfit("n=-&", 3);
         misfit("n=1-", 3);
         misfit("n=0000000001", 11);
         misfit("n=-0000000001", 12);
@@ -216,10 +218,16 @@ final class BoundaryFiltersTest {
         Check.typed(reader, "n=1");
         Check.same("a filter", reader.select(true), 1);
         Check.same("nothing is typed then", reader.select(true), 3);
-        Check.typed(reader, "n=");
-        Check.noArgument("no filter", () -> reader.select(true));
+        for (String none : new String[] {"n=", "A:n", "A:n.q?", "n=1&q", "n>-"}) {
+            Check.typed(reader, none);
+            Check.noArgument("no filter", () -> reader.select(true));
+            Check.typed(reader, "n=0");
+            Check.same("nothing was typed then", reader.select(true), 1);
+        }
+        Check.typed(reader, "A:");
+        Check.same("a name", reader.select(true), 2);
         Check.typed(reader, "n=0");
-        Check.same("nothing was typed then", reader.select(true), 1);
+        Check.same("no name is typed then", reader.select(true), 1);
         Check.typed(reader, "n=");
         Check.noArgument("open()", reader::open);
         ChunkMaker.simple().number(1).done().feedTo(reader);

@@ -42,6 +42,7 @@ final class BoundaryFoldsTest {
         FlightReader full = longs(new long[60]);
         Check.same("all sixty", full.fold(0, 'n'), 60);
         FlightReader some = longs(1, 2, 3, 4);
+        Check.same("all four", some.fold(1, 'n'), 10);
         Check.typed(some, "n>2");
         Check.same("select", some.select(true), 2);
         Check.same("the selected ones alone", some.fold(1, 'n'), 7);

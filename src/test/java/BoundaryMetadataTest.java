@@ -46,7 +46,20 @@ final class BoundaryMetadataTest {
         FlightReader reader = Check.opened("10 types", all.done(), 10);
         Check.same("the tenth one's name", reader.event(9, 1), 'J');
         Check.same("the tenth one's field", reader.value(9, 'n'), 9);
+        deepest();
         Check.faulty("11 types", told(ten.copy().set(0, 11).join(Bytes.type(99, 'Z', 1))), 4, 22);
+    }
+
+    /** Ten types, of which each holds an array of the next one, the last one an array of bytes. */
+    private static void deepest() {
+        Bytes[] types = new Bytes[10];
+        for (int i = 0; i < 10; i++) {
+            types[i] = Bytes.type(16 + i, (char) ('A' + i), i == 0 ? 1 : 0, Bytes.field('a', i == 9 ? Bytes.BYTE : 17 + i, Bytes.ARRAY));
+        }
+        FlightReader reader = Check.opened("10 in one another", ChunkMaker.with(types).value(Bytes.of(1).times(10).add(77)).done(), 1);
+        Check.same("a structure in it", reader.value(0, Check.path("a0a0")), 'C');
+        Bytes last = Bytes.pool(17, Bytes.constant(1, Bytes.of(1).times(9).add(77)));
+        Check.opened("9 in one another as a constant", ChunkMaker.with(types).checkpoint(0, last).done(), 0);
     }
 
     private static void ids() {

@@ -144,6 +144,45 @@ final class BoundaryRecordingTest {
         ChunkMaker.with().done().feedTo(reader);
         Check.same("open() of nothing told", reader.open(), 0);
         Check.sameText("all of it", Seen.of(reader), "chunks 1; selected; groups");
+        roomAgain();
+        constantsBefore();
+    }
+
+    /** What a recording takes of the room for values and letters is free for the next ones. */
+    private static void roomAgain() {
+        Bytes letters = Bytes.of(5).number(500).join(Bytes.of('x').times(500));
+        Bytes text = ChunkMaker.holding(Bytes.TEXT, 0).value(letters).done();
+        ChunkMaker maker = ChunkMaker.with(Bytes.type(16, 'E', 1, Bytes.field('n', 17, Bytes.ARRAY)),
+                Bytes.type(17, 'S', 0, Bytes.field('t', 18, 0)), Bytes.type(18, 'T', 0, Bytes.field('b', Bytes.BYTE, 0)));
+        Bytes values = maker.value(new Bytes().number(300).join(Bytes.of(9).times(300))).done();
+        for (Bytes each : new Bytes[] {text, values}) {
+            FlightReader reader = new FlightReader();
+            for (int i = 0; i < 3; i++) {
+                each.feedTo(reader);
+                Check.same("open() again", reader.open(), 1);
+                Check.same("all is there", reader.value(0, 'n'), each == text ? 500 : 300);
+            }
+            Check.same("nothing of the one before", reader.kind(0, 'n'), each == text ? 10 : 12);
+        }
+    }
+
+    /** Neither constants nor checkpoints of a recording are those of the next ones. */
+    private static void constantsBefore() {
+        FlightReader reader = new FlightReader();
+        Bytes[] pools = {Bytes.pool(Bytes.INT, Bytes.constant(1, Bytes.of(11)), Bytes.constant(2, Bytes.of(22))),
+            Bytes.pool(Bytes.INT, Bytes.constant(1, Bytes.of(11)))};
+        for (int i = 0; i < 4; i++) {
+            ChunkMaker.holding(Bytes.INT, 1).checkpoint(0, pools[i / 2]).value(Bytes.of(2)).done().feedTo(reader);
+            Check.same("open()", reader.open(), 1);
+            Check.same("a constant of its own", reader.kind(0, 'n'), i < 2 ? 6 : 1);
+        }
+        ChunkMaker two = ChunkMaker.holding(Bytes.INT, 1).checkpoint(0, pools[0]);
+        int second = two.here();
+        two.checkpoint(0).done().feedTo(reader);
+        Check.same("two checkpoints", reader.open(), 0);
+        ChunkMaker.holding(Bytes.INT, 1).checkpoint(0, pools[0]).lastCheckpointAt(second).event(0, Bytes.of(0, 0)).done().feedTo(reader);
+        Check.noArgument("a checkpoint of the one before", reader::open);
+        Check.same("its fault", reader.fault(0), 7);
     }
 
     private static void howManyEvents() {

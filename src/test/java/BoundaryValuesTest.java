@@ -154,6 +154,7 @@ final class BoundaryValuesTest {
         refused("a first byte below", 0x80, 0x80);
         refused("a first byte below", 0xBF, 0xBF);
         refused("a first byte above", 0xF0, 0x80, 0x80);
+        refused("a first byte above", 0xF0, 0xA0, 0x80);
         refused("a first byte above", 0xFF, 0xBF, 0xBF);
         refused("a second byte below", 0xC2, 0x7F);
         refused("a second byte above", 0xC2, 0xC0);
